@@ -15,6 +15,9 @@ public final class RandomRunsTest {
             }
             walk(seed, map, shape[0] * shape[1]);
             view(seed, map, shape[0] * shape[1]);
+            if (shape[0] * shape[1] > 30000) {
+                outside(seed, map);
+            }
         }
         CHECKS.end();
     }
@@ -94,6 +97,28 @@ public final class RandomRunsTest {
                 naive.step(40, 0, 3, true);
             }
             dueFrame("map " + seed + ", look " + i + ": ", view, naive);
+        }
+    }
+
+    // From as far away as the walker can go, where the quotients are the greatest.
+    private static void outside(int seed, MapMaker map) {
+        SectorView view = Give.withMap(map);
+        Naive naive = new Naive(map);
+        int x = seed % 16 < 8 ? -32768 : 32767;
+        int y = seed % 32 < 16 ? -32768 : 32767;
+        int angle = (x < 0 ? y < 0 ? 40 : 24 : y < 0 ? 56 : 8);
+        int sector = seed % map.sectors.size();
+        view.startAt(x, y, angle, sector);
+        naive.begin(x, y, angle, sector);
+        for (int i = 0; i < 160; i++) {
+            String call = "map " + seed + ", out " + i + ": ";
+            CHECKS.due(call + "stepBy", view.stepBy(64, 0, 0, false), naive.step(64, 0, 0, false));
+        }
+        dueState("map " + seed + ", out: ", view, naive);
+        for (int turn : new int[] {16, 14, 2}) {
+            view.stepBy(0, 0, turn, false);
+            naive.step(0, 0, turn, false);
+            dueFrame("map " + seed + ", from outside: ", view, naive);
         }
     }
 
