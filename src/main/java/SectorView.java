@@ -32,7 +32,6 @@ public final class SectorView {
     private final Tree tree;
     private final Walk walk;
     private final View view;
-    private final int[] frame;
     private Plan plan;
     private Plan sparePlan;
     private Run run;
@@ -49,7 +48,6 @@ public final class SectorView {
         Rays rays = new Rays();
         walk = new Walk(rays, plan);
         view = new View(rays);
-        frame = new int[COLUMNS * ROWS];
         run = new Run();
         spareRun = new Run();
     }
@@ -232,15 +230,20 @@ public final class SectorView {
         if (!hasMap()) {
             return 0;
         }
+        long rowFactor = 1;
+        for (int column = 0; column < COLUMNS; column++) {
+            rowFactor *= 31;
+        }
+        // A pixel one row further up counts rowFactor times as much, one a column further left 31 times:
+        // so columns can be summed up one by one, and no frame is kept.
+        long sum = 0;
         for (int column = 0; column < COLUMNS; column++) {
             view.look(walk, column);
+            long columnSum = 0;
             for (int row = 0; row < ROWS; row++) {
-                frame[row * COLUMNS + column] = view.pixels[row];
+                columnSum = rowFactor * columnSum + view.pixels[row];
             }
-        }
-        long sum = 0;
-        for (int i = 0; i < frame.length; i++) {
-            sum = 31 * sum + frame[i];
+            sum = 31 * sum + columnSum;
         }
         return sum;
     }
@@ -876,7 +879,7 @@ public final class SectorView {
         }
 
         void startAll(int mover, int tag) {
-            for (int i = 0; i < sectorCount; i++) {
+            for (int i = 0; i < sectorCount && mover != NONE; i++) {
                 if (sectors[i].tag == tag) {
                     startOne(mover, i);
                 }
@@ -1102,7 +1105,6 @@ public final class SectorView {
         static final int MOST = MOST_WALLS * MOST_WALLS;
         static final int ON = 0;
         static final int LEFT = 1;
-        static final int RIGHT = -1;
         static final int CUT = 2;
 
         int[] walls = new int[MOST_WALLS];

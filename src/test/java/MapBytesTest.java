@@ -248,6 +248,12 @@ public final class MapBytesTest {
         wallsDue("a vertex within one", true, tee, 0, 1, 2, 3);
         wallsDue("one with a vertex within", true, tee, 3, 2, 1, 0);
         wallsDue("just beside it", false, tee, 0, 1, 3, 4);
+        int[] lying = {0, 0, 0, 10, 0, 5, 9, 5, -9, 5, 1, 5};
+        wallsDue("a vertex within one, from the right", true, lying, 0, 1, 2, 3);
+        wallsDue("one with a vertex within, from the right", true, lying, 3, 2, 0, 1);
+        wallsDue("a vertex within one, from the left", true, lying, 0, 1, 4, 2);
+        wallsDue("one with a vertex within, from the left", true, lying, 4, 2, 0, 1);
+        wallsDue("just beside it", false, lying, 0, 1, 3, 5);
         int[] wide = {-32768, -32768, 32767, 32767, -32768, 32767, 32767, -32768, 0, 1, 1, 0};
         wallsDue("across all", true, wide, 0, 1, 2, 3);
         wallsDue("a short one across", true, wide, 0, 1, 4, 5);

@@ -234,6 +234,14 @@ public final class MoversTest {
             view.stepBy(-30, 0, 0, false);
             CHECKS.due("kind " + kind + " from its back", view.sectorOf(0, 3), mover);
         }
+        Corridor most = new Corridor().wall(20, 0, 0, 2, 9);
+        for (int i = 0; i < 32; i++) {
+            most.sector(0, 100, 9, 0, 9);
+        }
+        SectorView all = most.view();
+        all.stepBy(30, 0, 0, false);
+        CHECKS.due("as many as can be", all.lookAt(11), 32);
+        CHECKS.due("the last one", all.sectorOf(31, 3), 1);
         SectorView view = new Corridor().sector(0, 100, 9, 0, 0).sector(0, 40, 9, 0, 9).wall(20, 0, 0, 3, 9).wall(40, 0, 1, 0, 0).view();
         CHECKS.due("stopped by the second", view.stepBy(50, 0, 0, false), 2);
         CHECKS.due("so none is started", view.lookAt(11), 0);

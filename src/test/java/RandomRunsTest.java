@@ -6,8 +6,8 @@ public final class RandomRunsTest {
 
     public static void main(String[] args) {
         int[][] shapes = {{4, 16, 30}, {6, 40, 60}, {3, 100, 20}, {40, 10, 200}, {16, 2048, 400}, {3276, 10, 2000},
-            {1, 32768, 12}, {32767, 1, 300}};
-        for (int seed = 0; seed < 96; seed++) {
+            {1, 32768, 12}, {32767, 1, 300}, {5, 20, 2000}};
+        for (int seed = 0; seed < 108; seed++) {
             int[] shape = shapes[seed % shapes.length];
             MapMaker map = RandomMap.of(seed, shape[0], shape[1], shape[2]);
             if (shape[2] < 1000 || seed < 32) {

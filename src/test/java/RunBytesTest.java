@@ -83,6 +83,11 @@ public final class RunBytesTest {
         CHECKS.due("ticks", view.walkerOf(5), 70);
         view.playTo(0);
         CHECKS.due("the run's start", view.walkerOf(0), -300);
+        CHECKS.due("again", Give.run(view, bytes), 0);
+        CHECKS.due("once more", Give.run(view, bytes), 0);
+        CHECKS.due("lookAt(4)", view.lookAt(4), 70);
+        view.saveDemo();
+        Give.dueWritten(CHECKS, "nothing is left of the old ones", view, bytes);
         due("nothing but a start", new RunMaker(0, 0, 0, 0).bytes(), 0, -1);
     }
 
@@ -139,6 +144,7 @@ public final class RunBytesTest {
     private static void sameGroups() {
         due("63 and more", new RunMaker(0, 0, 0, 0).group(63, 1, 0, 0, true).group(63, 1, 0, 0, true).group(1, 1, 0, 0, true).bytes(), 0, -1);
         due("62 and more", new RunMaker(0, 0, 0, 0).group(62, 1, 0, 0, true).group(1, 1, 0, 0, true).bytes(), 4, 11);
+        due("1 and 1", new RunMaker(0, 0, 0, 0).group(1, 1, 0, 0, true).group(1, 1, 0, 0, true).bytes(), 4, 11);
         due("behind one of 63", new RunMaker(0, 0, 0, 0).group(63, 1, 2, 0, true).group(5, 1, 2, 0, true).group(5, 1, 2, 0, true).bytes(), 4, 17);
         due("one that uses, one that does not", new RunMaker(0, 0, 0, 0).group(5, 1, 0, 0, true).group(5, 1, 0, 0, false).bytes(), 0, -1);
         due("not next to it", new RunMaker(0, 0, 0, 0).group(5, 1, 0, 0, true).group(5, 2, 0, 0, true).group(5, 1, 0, 0, true).bytes(), 0, -1);

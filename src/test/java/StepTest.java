@@ -108,6 +108,11 @@ public final class StepTest {
         due(view, "R of 1 counts", 30, 0, 0, 1, 46, 1);
         CHECKS.due("on from it", view.stepBy(30, 0, 0, false), 1);
         due(view, "R of 0 does not", 60, 0, 0, 1, 46, 2);
+        MapMaker close = new MapMaker().texture(0, 0, 0).sector(0, 99, 0, 0, 0, 0, 0).sector(3, 99, 0, 0, 0, 0, 0)
+            .vertex(1, 1).vertex(0, -1).plainWall(0, 1, 0, 1, 0, 0);
+        view = Give.withMap(close);
+        CHECKS.due("from half a place ahead of it", view.stepBy(1, 0, 0, false), 1);
+        due(view, "P is -1", 1, 0, 0, 1, 44, 1);
         view = two(0, 200, 5, 200);
         view.stepBy(29, 0, 0, false);
         due(view, "just ahead of it", 29, 0, 0, 0, 41, 1);

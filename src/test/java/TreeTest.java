@@ -182,5 +182,7 @@ public final class TreeTest {
         Give.map(view, map(new int[] {0, 0, 10, 0}, 0, 1).bytes());
         counts(view, 1, 1);
         node(view, 0, 0, -1, -1, 1, 1, 0);
+        leaf(view, 5, 1, 0);
+        leaf(view, 5, -1, 1);
     }
 }
