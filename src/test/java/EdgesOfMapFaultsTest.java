@@ -1,5 +1,3 @@
-import java.util.Arrays;
-
 /** The sentences of the FAULTS of a MAP: each fault, its place, and which of several is seen first. */
 public final class EdgesOfMapFaultsTest {
     private static final Sentences S = new Sentences();
@@ -34,39 +32,28 @@ public final class EdgesOfMapFaultsTest {
         Edges.dueMap(S, what, bytes, fault, place);
     }
 
-    private static int[] first(int n, int[] bytes) {
-        return Arrays.copyOf(bytes, n);
-    }
-
-    /** These bytes with another one; the check is not made right for it. */
-    private static int[] with(int[] bytes, int place, int b) {
-        int[] others = bytes.clone();
-        others[place] = b;
-        return others;
-    }
-
     private static void seenFirst() {
         int[] known = Edges.known();
-        due("2 ahead of 3", with(with(known, 2, 2), 3, 200), 2, 2);
+        due("2 ahead of 3", Edges.with(Edges.with(known, 2, 2), 3, 200), 2, 2);
         due("2 ahead of 1", new int[] {77, 71}, 2, 1);
-        due("3 ahead of 1", first(4, with(known, 3, 129)), 3, 3);
-        due("1 ahead of 3: there is nothing to be seen", first(3, known), 1, 3);
+        due("3 ahead of 1", Edges.first(4, Edges.with(known, 3, 129)), 3, 3);
+        due("1 ahead of 3: there is nothing to be seen", Edges.first(3, known), 1, 3);
         due("the first 3 of two", Edges.poked(28, 16, 29, 4), 3, 28);
-        due("3 ahead of 4", with(known, 73, 2), 3, 73);
-        due("3 ahead of 5", first(CHECK + 3, with(known, 72, 64)), 3, 72);
+        due("3 ahead of 4", Edges.with(known, 73, 2), 3, 73);
+        due("3 ahead of 5", Edges.first(CHECK + 3, Edges.with(known, 72, 64)), 3, 72);
         due("3 ahead of 6", Edges.poked(55, 1, 67, 0, 66, 6), 3, 66);
-        due("4 ahead of 5", first(CHECK + 3, with(known, CHECK + 1, 255)), 4, CHECK + 1);
-        due("4 ahead of 1: the first byte of two is another one", first(CHECK + 1, with(known, CHECK, 255)), 4, CHECK);
-        due("1 ahead of 4: the second one is not there", first(CHECK + 1, known), 1, CHECK + 1);
-        due("1 where a number has one of two bytes", first(23, with(known, 22, 127)), 1, 23);
-        due("1 where a vertex has one of two bytes of y", first(14, Edges.poked(11, 0, 12, 0, 13, 0, 14, 0)), 1, 14);
+        due("4 ahead of 5", Edges.first(CHECK + 3, Edges.with(known, CHECK + 1, 255)), 4, CHECK + 1);
+        due("4 ahead of 1: the first byte of two is another one", Edges.first(CHECK + 1, Edges.with(known, CHECK, 255)), 4, CHECK);
+        due("1 ahead of 4: the second one is not there", Edges.first(CHECK + 1, known), 1, CHECK + 1);
+        due("1 where a number has one of two bytes", Edges.first(23, Edges.with(known, 22, 127)), 1, 23);
+        due("1 where a vertex has one of two bytes of y", Edges.first(14, Edges.poked(11, 0, 12, 0, 13, 0, 14, 0)), 1, 14);
     }
 
     private static void tooFew() {
         due("none", new int[0], 1, 0);
         int[] known = Edges.known();
         for (int n = 1; n < known.length; n++) {
-            due("the first " + n, first(n, known), 1, n);
+            due("the first " + n, Edges.first(n, known), 1, n);
         }
         due("all", known, 0, -1);
         SectorView view = new SectorView();
@@ -91,7 +78,7 @@ public final class EdgesOfMapFaultsTest {
             {40, 3}, {41, 3}, {42, 2}, {43, 2}, {44, 1}, {45, 1}, {46, 1}, {51, 4}, {52, 6}, {58, 1}, {63, 1}, {72, 64}, {73, 2}};
         for (int[] w : wrong) {
             due("byte " + w[0] + " is " + w[1], Edges.poked(w), 3, w[0]);
-            due("nothing behind it is read", first(w[0] + 1, Edges.poked(w)), 3, w[0]);
+            due("nothing behind it is read", Edges.first(w[0] + 1, Edges.poked(w)), 3, w[0]);
         }
     }
 
@@ -142,15 +129,15 @@ public final class EdgesOfMapFaultsTest {
         due("the second one", Edges.poked(11, 0, 12, 0, 13, 0, 14, 0), 3, 13);
         due("the third one, where the first is", Edges.poked(15, 0, 16, 0, 17, 0, 18, 0), 3, 17);
         due("the third one, where the second is", Edges.poked(15, 0, 16, 100, 17, 0, 18, 0), 3, 17);
-        due("seen when all of y is read", first(19, Edges.poked(15, 0, 16, 0, 17, 0, 18, 0)), 3, 17);
-        due("not ahead of that", first(18, Edges.poked(15, 0, 16, 0, 17, 0, 18, 0)), 1, 18);
+        due("seen when all of y is read", Edges.first(19, Edges.poked(15, 0, 16, 0, 17, 0, 18, 0)), 3, 17);
+        due("not ahead of that", Edges.first(18, Edges.poked(15, 0, 16, 0, 17, 0, 18, 0)), 1, 18);
     }
 
     private static void secondVertexPlace() {
         due("the first wall", Edges.poked(40, 1, 41, 1), 3, 41);
         due("the second wall", Edges.poked(54, 0, 55, 0), 3, 55);
-        due("seen when it is read", first(42, Edges.poked(40, 1, 41, 1)), 3, 41);
-        due("not ahead of that", first(41, Edges.poked(40, 1, 41, 1)), 1, 41);
+        due("seen when it is read", Edges.first(42, Edges.poked(40, 1, 41, 1)), 3, 41);
+        due("not ahead of that", Edges.first(41, Edges.poked(40, 1, 41, 1)), 1, 41);
         due("one that is none is seen ahead of it", Edges.poked(40, 9, 41, 9), 3, 40);
     }
 
@@ -159,26 +146,26 @@ public final class EdgesOfMapFaultsTest {
         due("lower", Edges.poked(22, 0, 23, 101), 3, 24);
         due("1 higher", Edges.poked(22, 0, 23, 99), 0, -1);
         due("lower than a floor below 0", Edges.poked(33, 255, 34, 239), 3, 33);
-        due("both of it are to be read", first(25, Edges.poked(24, 255, 25, 255)), 1, 25);
+        due("both of it are to be read", Edges.first(25, Edges.poked(24, 255, 25, 255)), 1, 25);
     }
 
     private static void check() {
         int[] known = Edges.known();
         for (int more = 1; more < 256; more += 50) {
-            due("the first", with(known, CHECK, (known[CHECK] + more) % 256), 4, CHECK);
-            due("the second", with(known, CHECK + 1, (known[CHECK + 1] + more) % 256), 4, CHECK + 1);
+            due("the first", Edges.with(known, CHECK, (known[CHECK] + more) % 256), 4, CHECK);
+            due("the second", Edges.with(known, CHECK + 1, (known[CHECK + 1] + more) % 256), 4, CHECK + 1);
         }
-        due("both", with(with(known, CHECK, 255), CHECK + 1, 255), 4, CHECK);
-        due("a byte that it is of: the sums differ by 1", with(known, 30, 1), 4, CHECK);
-        due("two bytes that are turned around: only the second sum differs", with(with(known, 68, 30), 69, 0), 4, CHECK + 1);
+        due("both", Edges.with(Edges.with(known, CHECK, 255), CHECK + 1, 255), 4, CHECK);
+        due("a byte that it is of: the sums differ by 1", Edges.with(known, 30, 1), 4, CHECK);
+        due("two bytes that are turned around: only the second sum differs", Edges.with(Edges.with(known, 68, 30), 69, 0), 4, CHECK + 1);
     }
 
     private static void leftBehind() {
         int[] known = Edges.known();
-        due("one", first(known.length + 1, known), 5, known.length);
-        due("many", first(known.length + 90, known), 5, known.length);
+        due("one", Edges.first(known.length + 1, known), 5, known.length);
+        due("many", Edges.first(known.length + 90, known), 5, known.length);
         SectorView view = new SectorView();
-        Give.bytes(view, first(known.length + 1, known));
+        Give.bytes(view, Edges.first(known.length + 1, known));
         view.cutBytes(known.length);
         S.due("none any more", view.loadMap(), 0);
     }
@@ -186,11 +173,11 @@ public final class EdgesOfMapFaultsTest {
     private static void allElseFirst() {
         int[] crossed = Edges.poked(55, 1);
         due("the same vertices", crossed, 6, 54);
-        due("1 is seen first", first(crossed.length - 1, crossed), 1, crossed.length - 1);
+        due("1 is seen first", Edges.first(crossed.length - 1, crossed), 1, crossed.length - 1);
         due("2 is seen first", Edges.poked(55, 1, 2, 0), 2, 2);
         due("3 behind it is seen first", Edges.poked(55, 1, 73, 2), 3, 73);
-        due("4 is seen first", with(crossed, CHECK + 1, 255), 4, CHECK + 1);
-        due("5 is seen first", first(crossed.length + 1, crossed), 5, crossed.length);
+        due("4 is seen first", Edges.with(crossed, CHECK + 1, 255), 4, CHECK + 1);
+        due("5 is seen first", Edges.first(crossed.length + 1, crossed), 5, crossed.length);
     }
 
     /** Walls of vertices that are given as x, y, x, y for each; vertices at the same place are one. */
@@ -232,6 +219,7 @@ public final class EdgesOfMapFaultsTest {
         dueTwo("a vertex of both, back at a sharp angle", false, 0, 0, 10, 0, 10, 0, 0, 1);
         dueTwo("a vertex of both, straight on", false, 0, 0, 10, 0, 10, 0, 20, 0);
         dueTwo("a vertex of both, straight on, upright", false, 0, 0, 0, 10, 0, 10, 0, 20);
+        dueTwo("a vertex of both, straight on, 1 each", false, 0, 0, 0, 1, 0, 1, 0, 2);
         dueTwo("none", false, 0, 0, 10, 0, 0, 1, 10, 1);
         dueTwo("the lines meet, the walls do not", false, 0, 0, 10, 0, 5, 1, 5, 9);
         dueTwo("the lines meet beyond an end", false, 0, 0, 10, 0, 11, -5, 11, 5);
@@ -242,6 +230,8 @@ public final class EdgesOfMapFaultsTest {
 
     private static void sameVertices() {
         dueTwo("the same", true, 0, 0, 10, 3, 0, 0, 10, 3);
+        dueTwo("the shortest", true, 0, 0, 1, 0, 0, 0, 1, 0);
+        dueTwo("the shortest, upright", true, 7, 7, 7, 8, 7, 7, 7, 8);
         dueTwo("the farthest", true, -32768, -32768, 32767, 32767, -32768, -32768, 32767, 32767);
     }
 

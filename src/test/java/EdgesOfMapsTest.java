@@ -34,6 +34,7 @@ public final class EdgesOfMapsTest {
             + " behind each of these bytes.", EdgesOfMapsTest::checkSums);
         S.test("0, and THE MAP is that, with its START, THE RUN is empty, the walker is at START; else its fault.",
             EdgesOfMapsTest::loading);
+        S.test("THE MAP is that", EdgesOfMapsTest::nothingIsLeft);
         S.test("(with the START that it was read with)", EdgesOfMapsTest::savedStart);
         S.test("NONE without a MAP (the WRITTEN ones stay)", EdgesOfMapsTest::saveNoMap);
         S.end();
@@ -378,6 +379,65 @@ public final class EdgesOfMapsTest {
         S.dueWalker("START is the map's", view, 30, -30, 63, 1, 25, 0);
         S.due("the same map again", Give.map(view, Edges.known()), 0);
         S.due("two more were read", view.lookAt(12), 3);
+    }
+
+    private static MapMaker small() {
+        return new Corridor().sector(0, 100, 9, 0, 7).sector(0, 40, 9, 0, 0).wall(50, 0, 1, 1, 0).map;
+    }
+
+    /** A map that begins like the small one, with more of all. */
+    private static MapMaker large() {
+        Corridor corridor = new Corridor().sector(50, 90, 3, 0, 7).sector(60, 70, 3, 0, 0).sector(-90, 20, 3, 0, 7);
+        return corridor.wall(50, 0, 1, 2, 7).wall(30, 2, 0, 3, 7).wall(60, 1, 2, 0, 0).solid(10, 2).map;
+    }
+
+    // Twice, as an object may keep one map while it reads the next.
+    private static void nothingIsLeft() {
+        SectorView view = new SectorView();
+        Give.map(view, large().bytes());
+        Give.map(view, large().bytes());
+        view.stepBy(20, 0, 0, true);
+        Give.map(view, small().bytes());
+        SectorView other = Give.withMap(small());
+        for (int which = 0; which < 12; which++) {
+            S.due("lookAt(" + which + ")", view.lookAt(which), other.lookAt(which));
+        }
+        for (int what = 0; what < 6; what++) {
+            S.due("nodeOf(0, " + what + ")", view.nodeOf(0, what), other.nodeOf(0, what));
+            S.due("nodeOf(1, " + what + ")", view.nodeOf(1, what), other.nodeOf(1, what));
+        }
+        S.due("leafOf(0, 0)", view.leafOf(0, 0), other.leafOf(0, 0));
+        S.due("leafOf(90, 0)", view.leafOf(90, 0), other.leafOf(90, 0));
+        S.due("frameOf()", view.frameOf(), other.frameOf());
+        S.due("sectorOf(2, 0)", view.sectorOf(2, 0), 100000);
+        for (int i = 0; i < 30; i++) {
+            S.due("stepBy", view.stepBy(45 - 3 * i, 0, 0, true), other.stepBy(45 - 3 * i, 0, 0, true));
+            S.dueWalker("step " + i, view, other.walkerOf(0), other.walkerOf(1), other.walkerOf(2), other.walkerOf(3));
+            S.dueSector("step " + i, view, 1, other.sectorOf(1, 0), other.sectorOf(1, 1), 9, other.sectorOf(1, 3));
+        }
+        neighboursOfTheMap();
+    }
+
+    // What the heights beside a sector are is asked of the walls of this map alone.
+    private static void neighboursOfTheMap() {
+        for (int kind : new int[] {2, 3, 5}) {
+            Corridor many = new Corridor().sector(0, 200, 9, 0, 7).sector(-50, 90, 9, 0, 0).sector(70, 220, 9, 0, 0)
+                .wall(20, 0, 0, kind, 7).wall(50, 0, 1, 0, 0).wall(60, 0, 2, 0, 0);
+            Corridor few = new Corridor().sector(0, 200, 9, 0, 7).sector(0, 400, 9, 0, 0).sector(kind == 2 ? -70 : 70, 90, 9, 0, 0)
+                .wall(20, 0, 0, kind, 7).wall(50, 0, 1, 0, 0);
+            SectorView view = new SectorView();
+            Give.map(view, many.map.bytes());
+            Give.map(view, many.map.bytes());
+            Give.map(view, few.map.bytes());
+            SectorView other = few.view();
+            view.stepBy(30, 0, 0, false);
+            other.stepBy(30, 0, 0, false);
+            for (int i = 0; i < 40; i++) {
+                S.dueSector("kind " + kind, view, 0, other.sectorOf(0, 0), other.sectorOf(0, 1), 9, other.sectorOf(0, 3));
+                view.stepBy(0, 0, 0, false);
+                other.stepBy(0, 0, 0, false);
+            }
+        }
     }
 
     private static void savedStart() {

@@ -134,32 +134,26 @@ public final class EdgesOfRefusalsTest {
         dueSame(what, used, untouched, false);
     }
 
-    private static int[] with(int[] bytes, int place, int b) {
-        int[] others = bytes.clone();
-        others[place] = b;
-        return others;
-    }
-
     private static void faults() {
         int[] map = Edges.known();
         refusedBytes("a map's fault 1", true, 1, Arrays.copyOf(map, 75));
-        refusedBytes("a map's fault 2", true, 2, with(map, 2, 2));
-        refusedBytes("a map's fault 3, at its end", true, 3, with(map, 73, 2));
-        refusedBytes("a map's fault 4", true, 4, with(map, 75, 255));
+        refusedBytes("a map's fault 2", true, 2, Edges.with(map, 2, 2));
+        refusedBytes("a map's fault 3, at its end", true, 3, Edges.with(map, 73, 2));
+        refusedBytes("a map's fault 4", true, 4, Edges.with(map, 75, 255));
         refusedBytes("a map's fault 5", true, 5, Arrays.copyOf(map, 77));
         refusedBytes("a map's fault 6", true, 6, Edges.poked(55, 1));
         RunMaker maker = new RunMaker(9, 9, 9, 0).raw(5, 70, 1, 71);
         int[] run = maker.bytes();
         refusedBytes("a run's fault 1", false, 1, Arrays.copyOf(run, run.length - 1));
-        refusedBytes("a run's fault 2", false, 2, with(run, 2, 2));
-        refusedBytes("a run's fault 3", false, 3, with(run, 12, 200));
+        refusedBytes("a run's fault 2", false, 2, Edges.with(run, 2, 2));
+        refusedBytes("a run's fault 3", false, 3, Edges.with(run, 12, 200));
         refusedBytes("a run's fault 4", false, 4, new RunMaker(9, 9, 9, 0).raw(5, 70, 5, 70).bytes());
         RunMaker many = new RunMaker(9, 9, 9, 0);
         for (int i = 0; i < 17; i++) {
             many.raw(63, i % 2);
         }
         refusedBytes("a run's fault 5", false, 5, many.bytes());
-        refusedBytes("a run's fault 6", false, 6, with(run, run.length - 1, 255));
+        refusedBytes("a run's fault 6", false, 6, Edges.with(run, run.length - 1, 255));
         refusedBytes("a run's fault 7", false, 7, Arrays.copyOf(run, run.length + 1));
         refusedBytes("a run's fault 8", false, 8, new RunMaker(9, 9, 9, 2).raw(5, 70).bytes());
     }

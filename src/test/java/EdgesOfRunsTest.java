@@ -41,16 +41,6 @@ public final class EdgesOfRunsTest {
         Edges.dueRun(S, what, bytes, fault, place);
     }
 
-    private static int[] first(int n, int[] bytes) {
-        return Arrays.copyOf(bytes, n);
-    }
-
-    private static int[] with(int[] bytes, int place, int b) {
-        int[] others = bytes.clone();
-        others[place] = b;
-        return others;
-    }
-
     private static SectorView withLeastMap() {
         return Give.withMap(Edges.least());
     }
@@ -118,7 +108,7 @@ public final class EdgesOfRunsTest {
         due("no group", run().bytes(), 0, -1);
         int[] one = run().raw(1, 70).bytes();
         due("one", one, 0, -1);
-        due("the 0 is to be read", first(11, one), 1, 11);
+        due("the 0 is to be read", Edges.first(11, one), 1, 11);
         SectorView view = withLeastMap();
         S.due("saveDemo() of an empty run", view.saveDemo(), 14);
         S.due("the byte 0", view.byteOf(9, false), 0);
@@ -204,7 +194,7 @@ public final class EdgesOfRunsTest {
             view.saveDemo();
             S.dueWritten("a comes to " + a, view, bytes);
             int end = bytes.length - 2;
-            due("not modulo 65536", with(with(bytes, end, a >> 8), end + 1, a & 255), a < 65521 ? 0 : 6, end);
+            due("not modulo 65536", Edges.with(Edges.with(bytes, end, a >> 8), end + 1, a & 255), a < 65521 ? 0 : 6, end);
         }
     }
 
@@ -222,32 +212,32 @@ public final class EdgesOfRunsTest {
     }
 
     private static void seenFirst() {
-        due("2 ahead of 3", with(with(run().bytes(), 1, 72), 7, 64), 2, 1);
-        due("3 ahead of 1", first(8, with(run().bytes(), 7, 64)), 3, 7);
-        due("3 ahead of 6", with(run().raw(1, 70).bytes(), 10, 129), 3, 10);
+        due("2 ahead of 3", Edges.with(Edges.with(run().bytes(), 1, 72), 7, 64), 2, 1);
+        due("3 ahead of 1", Edges.first(8, Edges.with(run().bytes(), 7, 64)), 3, 7);
+        due("3 ahead of 6", Edges.with(run().raw(1, 70).bytes(), 10, 129), 3, 10);
         due("the first 3 of two", run().raw(1, 129, 1, 130).bytes(), 3, 10);
         due("4 ahead of 5", run().raw(1, 70, 1, 70).raw(many(0).bytes()).bytes(), 4, 11);
-        due("4 ahead of 6", with(run().raw(1, 70, 1, 70).bytes(), 14, 255), 4, 11);
+        due("4 ahead of 6", Edges.with(run().raw(1, 70, 1, 70).bytes(), 14, 255), 4, 11);
         due("5 ahead of 3: its amount is not read", many(0).raw(63, 200).bytes(), 5, 41);
         due("5 ahead of 4", many(16).raw(1, 73).bytes(), 5, 43);
         int[] bytes = run().raw(1, 70).bytes();
-        due("6 ahead of 7", first(bytes.length + 1, with(bytes, bytes.length - 1, 255)), 6, bytes.length - 1);
-        due("6 ahead of 1: the first byte of four is another one", first(13, with(bytes, 12, 255)), 6, 12);
-        due("1 ahead of 6: it is not there", first(12, bytes), 1, 12);
-        due("7 ahead of 8", first(15, new RunMaker(0, 0, 0, 200).bytes()), 7, 14);
-        due("6 ahead of 8", with(new RunMaker(0, 0, 0, 200).bytes(), 13, 255), 6, 13);
+        due("6 ahead of 7", Edges.first(bytes.length + 1, Edges.with(bytes, bytes.length - 1, 255)), 6, bytes.length - 1);
+        due("6 ahead of 1: the first byte of four is another one", Edges.first(13, Edges.with(bytes, 12, 255)), 6, 12);
+        due("1 ahead of 6: it is not there", Edges.first(12, bytes), 1, 12);
+        due("7 ahead of 8", Edges.first(15, new RunMaker(0, 0, 0, 200).bytes()), 7, 14);
+        due("6 ahead of 8", Edges.with(new RunMaker(0, 0, 0, 200).bytes(), 13, 255), 6, 13);
     }
 
     private static void oneAndTwo() {
         int[] bytes = run().raw(129, 1, 2, 3, 65, 70).bytes();
         for (int n = 0; n < bytes.length; n++) {
-            due("the first " + n, first(n, bytes), 1, n);
+            due("the first " + n, Edges.first(n, bytes), 1, n);
         }
         due("all", bytes, 0, -1);
         int[] right = {77, 68, 1};
         for (int place = 0; place < 3; place++) {
             for (int b : new int[] {right[place] - 1, right[place] + 1, 255}) {
-                due("byte " + place + " is " + b, with(bytes, place, b), 2, place);
+                due("byte " + place + " is " + b, Edges.with(bytes, place, b), 2, place);
             }
         }
         due("a map", Edges.known(), 2, 1);
@@ -275,14 +265,14 @@ public final class EdgesOfRunsTest {
         due("with a use", run().raw(193, 70, 64, 16).bytes(), 3, 12);
         due("aside not", run().raw(129, 70, 65, 16).bytes(), 0, -1);
         due("turn not", run().raw(129, 70, 64, 15).bytes(), 0, -1);
-        due("seen with the turn, not ahead of it", first(12, run().raw(129, 70, 64, 16).bytes()), 1, 12);
+        due("seen with the turn, not ahead of it", Edges.first(12, run().raw(129, 70, 64, 16).bytes()), 1, 12);
     }
 
     private static void groupOfNone() {
         for (int head : new int[] {64, 128, 192}) {
             due("head " + head, run().raw(head, 70, 65, 17).bytes(), 3, 9);
             due("head " + head + " behind another", run().raw(5, 70, head, 70, 65, 17).bytes(), 3, 11);
-            due("seen at once", first(10, run().raw(head).bytes()), 3, 9);
+            due("seen at once", Edges.first(10, run().raw(head).bytes()), 3, 9);
         }
         due("a byte 0 is the end", run().bytes(), 0, -1);
         due("what looks like a group behind it is the check", run().raw(0, 70).bytes(), 6, 10);
@@ -306,17 +296,17 @@ public final class EdgesOfRunsTest {
 
     private static void sameInputSeen() {
         due("its place", run().raw(1, 71, 5, 70, 1, 70).bytes(), 4, 13);
-        due("1 first", first(12, run().raw(5, 70, 1, 70).bytes()), 1, 12);
-        due("1 first", first(16, run().raw(133, 70, 1, 1, 129, 70, 1, 1).bytes()), 1, 16);
+        due("1 first", Edges.first(12, run().raw(5, 70, 1, 70).bytes()), 1, 12);
+        due("1 first", Edges.first(16, run().raw(133, 70, 1, 1, 129, 70, 1, 1).bytes()), 1, 16);
         due("3 first", run().raw(133, 70, 1, 1, 129, 70, 1, 33).bytes(), 3, 16);
         due("3 first: written though both 0", run().raw(5, 70, 129, 70, 64, 16).bytes(), 3, 14);
-        due("then 4, though nothing is behind it", first(13, run().raw(5, 70, 1, 70).bytes()), 4, 11);
+        due("then 4, though nothing is behind it", Edges.first(13, run().raw(5, 70, 1, 70).bytes()), 4, 11);
     }
 
     private static void tooMany() {
         due("1 and 63 more than 1008", many(0).raw(17, 73).bytes(), 5, 41);
         due("63", many(0).raw(63, 73).bytes(), 5, 41);
-        due("seen with its first byte", first(42, many(0).raw(17).bytes()), 5, 41);
+        due("seen with its first byte", Edges.first(42, many(0).raw(17).bytes()), 5, 41);
         due("one more behind 1024", many(16).raw(1, 99).bytes(), 5, 43);
         due("the end behind 1024", many(16).bytes(), 0, -1);
         due("a group of none behind 1024", many(16).raw(64, 99).bytes(), 3, 43);
@@ -331,19 +321,19 @@ public final class EdgesOfRunsTest {
     private static void check() {
         int[] bytes = run().raw(5, 70).bytes();
         for (int i = 0; i < 4; i++) {
-            due("byte " + i, with(bytes, 12 + i, bytes[12 + i] ^ 1), 6, 12 + i);
-            due("byte " + i + " and the last", with(with(bytes, 15, 255), 12 + i, bytes[12 + i] ^ 128), 6, 12 + i);
-            due("byte " + i + " is not there", first(12 + i, bytes), 1, 12 + i);
+            due("byte " + i, Edges.with(bytes, 12 + i, bytes[12 + i] ^ 1), 6, 12 + i);
+            due("byte " + i + " and the last", Edges.with(Edges.with(bytes, 15, 255), 12 + i, bytes[12 + i] ^ 128), 6, 12 + i);
+            due("byte " + i + " is not there", Edges.first(12 + i, bytes), 1, 12 + i);
         }
-        due("a byte that it is of", with(bytes, 3, 1), 6, 13);
+        due("a byte that it is of", Edges.with(bytes, 3, 1), 6, 13);
     }
 
     private static void leftBehind() {
         int[] bytes = run().raw(5, 70).bytes();
-        due("one", first(bytes.length + 1, bytes), 7, bytes.length);
-        due("many", first(bytes.length + 70, bytes), 7, bytes.length);
+        due("one", Edges.first(bytes.length + 1, bytes), 7, bytes.length);
+        due("many", Edges.first(bytes.length + 70, bytes), 7, bytes.length);
         int[] empty = run().bytes();
-        due("one behind an empty run", first(empty.length + 1, empty), 7, empty.length);
+        due("one behind an empty run", Edges.first(empty.length + 1, empty), 7, empty.length);
     }
 
     private static void eight() {
@@ -354,8 +344,8 @@ public final class EdgesOfRunsTest {
         S.due("no MAP", Give.run(view, run().bytes()), 8);
         S.due("lookAt(8)", view.lookAt(8), 8);
         S.due("no MAP: 1 is seen first", Give.run(view), 1);
-        S.due("no MAP: 6 is seen first", Give.run(view, with(run().bytes(), 13, 255)), 6);
-        S.due("no MAP: 7 is seen first", Give.run(view, first(15, run().bytes())), 7);
+        S.due("no MAP: 6 is seen first", Give.run(view, Edges.with(run().bytes(), 13, 255)), 6);
+        S.due("no MAP: 7 is seen first", Give.run(view, Edges.first(15, run().bytes())), 7);
         S.due("no MAP: THE RUN is empty", view.lookAt(4), 0);
         due("3 is seen first", new RunMaker(0, 0, 64, 2).bytes(), 3, 7);
     }

@@ -145,6 +145,10 @@ public final class EdgesOfStepsTest {
         SectorView shut = new Corridor().sector(0, 100, 9, 0, 0).solid(30, 0).view();
         S.due("up to one ahead of a wall", shut.stepBy(29, 0, 0, false), 1);
         S.due("onto it", shut.stepBy(1, 0, 0, false), 2);
+        SectorView least = Give.withMap(Edges.least().vertex(1, 1).vertex(1, -1).plainWall(0, 1, 0, NO, 0, 0));
+        S.due("a wall of 2, 1 away", least.stepBy(1, 0, 0, false), 2);
+        least.startAt(2, 0, 32, 0);
+        S.due("from behind", least.stepBy(1, 0, 0, false), 2);
         SectorView slant = Give.withMap(Edges.least().vertex(-1, -2).vertex(4, 1).plainWall(1, 0, 0, NO, 0, 0));
         slant.startAt(0, 0, 0, 0);
         S.due("R of 7 / 3", slant.stepBy(1, 0, 0, false), 1);
@@ -163,6 +167,7 @@ public final class EdgesOfStepsTest {
         passed.map.vertex(30, -200).vertex(30, 200).plainWall(0, 1, 0, NO, 0, 0);
         S.due("one that is passed over stops it", passed.view().stepBy(40, 0, 0, false), 2);
         S.due("not where it does not come to it", passed.view().stepBy(29, 0, 0, false), 1);
+        crossedAtQuotients();
         MapMaker fan = new MapMaker().texture(0, 0, 0);
         for (int i = 0; i < 4; i++) {
             fan.sector(i, 100, 0, 0, 0, 0, 0);
@@ -172,6 +177,21 @@ public final class EdgesOfStepsTest {
         SectorView same = Give.withMap(fan);
         same.stepBy(20, 0, 0, false);
         S.due("of the same R the last is that of the highest number", same.walkerOf(3), 2);
+    }
+
+    // Two walls across a step of 60, the nearer or the farther one having the lower number: R is 1 / 4, 4 / 15, 3 / 10, ..
+    private static void crossedAtQuotients() {
+        int[] places = {15, 16, 18, 20, 24, 25, 30, 36, 40, 42, 45, 50, 60};
+        for (int first : places) {
+            for (int second : places) {
+                if (first != second) {
+                    SectorView view = new Corridor().sector(0, 200, 9, 0, 0).sector(1, 200, 9, 0, 0).sector(2, 200, 9, 0, 0)
+                        .wall(first, 0, 1, 0, 0).wall(second, 0, 2, 0, 0).view();
+                    view.stepBy(60, 0, 0, false);
+                    S.due("walls at " + first + " and " + second, view.walkerOf(3), first > second ? 1 : 2);
+                }
+            }
+        }
     }
 
     private static void noBack() {
@@ -334,6 +354,10 @@ public final class EdgesOfStepsTest {
         view = used(30, 1).wall(40, 0, 0, 0, 0).view();
         view.stepBy(0, 0, 0, true);
         S.due("another one is behind it", view.lookAt(11), 1);
+        view = used(30, 1).view();
+        S.due("it is seen", view.metAt(31, 0), 0);
+        view.stepBy(0, 0, 16, true);
+        S.due("none is ahead any more", view.lookAt(11), 0);
         Corridor passed = used(40, 1);
         passed.map.vertex(30, -200).vertex(30, 200).plainWall(2, 3, 0, NO, 0, 0);
         view = passed.view();

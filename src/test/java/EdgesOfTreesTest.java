@@ -9,6 +9,7 @@ public final class EdgesOfTreesTest {
             EdgesOfTreesTest::sides);
         S.test("A PIECE is CUT by a line if its ends lie LEFT and RIGHT of it", EdgesOfTreesTest::cuts);
         S.test("at the quotient where the line meets it it becomes two", EdgesOfTreesTest::exactCut);
+        S.test("A PIECE is a WALL from one quotient to a greater one", EdgesOfTreesTest::manyPieces);
         S.test("if it is empty it is a LEAF", EdgesOfTreesTest::empty);
         S.test("whose LINE is that of the WALL of one of its first 16 PIECES", EdgesOfTreesTest::firstSixteen);
         S.test("4 times the number of PIECES it CUTS, and the difference of how many lie LEFT and how many RIGHT of it (those that are CUT"
@@ -63,6 +64,10 @@ public final class EdgesOfTreesTest {
         leaf(turned, 5, 11, 1);
         leaf(turned, 5, 10, 1);
         leaf(turned, 5, 9, 0);
+        SectorView shortest = walls(0, 0, 1, 0);
+        leaf(shortest, 5, 1, 0);
+        leaf(shortest, 5, 0, 1);
+        leaf(shortest, 5, -1, 1);
         SectorView farthest = walls(-32768, -32768, 32767, 32766);
         leaf(farthest, 0, 0, 0);
         leaf(farthest, 32767, 32767, 0);
@@ -179,6 +184,41 @@ public final class EdgesOfTreesTest {
         node(view, 3, 3, -1, 4, 1, 3, 1);
         node(view, 4, 2, -1, 5, 1, 2, 2);
         node(view, 5, 0, -1, -1, 1, 1, 3);
+        // Wall 3 is cut by wall 0; that quotient and the one where wall 1's line meets it have to be told apart.
+        view = walls(2, -4, -1, 4, 5, 5, 2, -1, -1, 3, 1, -3, 3, 3, -6, 6, -1, -4, 0, -4);
+        counts(view, 6, 6);
+        node(view, 0, 4, 1, -1, 1, 6, 0);
+        node(view, 1, 0, 2, 4, 1, 5, 1);
+        node(view, 2, 3, 3, -1, 1, 2, 2);
+        node(view, 3, 2, -1, -1, 1, 1, 3);
+        node(view, 4, 1, -1, 5, 1, 2, 2);
+        node(view, 5, 3, -1, -1, 1, 1, 3);
+    }
+
+    // Walls that are cut again and again, into more PIECES than there are walls at most.
+    private static void manyPieces() {
+        for (int seed : new int[] {6, 11}) {
+            MapMaker map = RandomMap.of(seed, 3276, 10, 4000);
+            NaiveTree naive = new NaiveTree(map);
+            S.due("128 walls", map.walls.size(), 128);
+            S.due("more pieces than that", naive.pieces > 160, true);
+            SectorView view = Give.withMap(map);
+            counts(view, naive.nodes.size(), naive.pieces);
+            dueAs(naive, map);
+        }
+    }
+
+    // A new object for each 30 nodes, as none is to be asked more than 512 times.
+    private static void dueAs(NaiveTree naive, MapMaker map) {
+        SectorView view = null;
+        for (int k = 0; k < naive.nodes.size(); k++) {
+            if (k % 30 == 0) {
+                view = Give.withMap(map);
+            }
+            for (int what = 0; what < 6; what++) {
+                S.due("nodeOf(" + k + ", " + what + ")", view.nodeOf(k, what), Math.max(-1, naive.nodes.get(k)[what]));
+            }
+        }
     }
 
     // The walls of the pinwheel in other orders: where a PIECE stands in its LIST decides which line is taken.
@@ -193,13 +233,8 @@ public final class EdgesOfTreesTest {
                 map.vertex(all[4 * i], all[4 * i + 1]).vertex(all[4 * i + 2], all[4 * i + 3]).plainWall(2 * i, 2 * i + 1, 0, 0, 0, 0);
             }
             NaiveTree naive = new NaiveTree(map);
-            SectorView view = walls(all);
-            counts(view, naive.nodes.size(), naive.pieces);
-            for (int k = 0; k < naive.nodes.size(); k++) {
-                for (int what = 0; what < 6; what++) {
-                    S.due("nodeOf(" + k + ", " + what + ")", view.nodeOf(k, what), Math.max(-1, naive.nodes.get(k)[what]));
-                }
-            }
+            counts(walls(all), naive.nodes.size(), naive.pieces);
+            dueAs(naive, map);
         }
     }
 

@@ -32,6 +32,8 @@ public final class EdgesOfViewsTest {
         S.test("LENGTH is the greater one of the two differences of its ends, |x| and |y|", EdgesOfViewsTest::lengths);
         S.test("U = floor(LENGTH * a / (a - b)), from its BACK floor(LENGTH * b / (b - a)), and across", EdgesOfViewsTest::across);
         S.test("V = ANCHOR - 1 - Z and down", EdgesOfViewsTest::down);
+        S.test("it is the texel of the TEXTURE (upper for UPPER, middle for SOLID, lower for LOWER, of the side that is met) in column U modulo"
+            + " W, row V modulo H", EdgesOfViewsTest::eachTexture);
         S.test("0 if there is none.", EdgesOfViewsTest::noTexture);
         S.test("for UPPER CEILING of NEAR, if upper is PEGGED, else CEILING of FAR + H", EdgesOfViewsTest::upperAnchor);
         S.test("for SOLID FLOOR of NEAR + H, if lower is PEGGED, else CEILING of NEAR", EdgesOfViewsTest::solidAnchor);
@@ -134,6 +136,10 @@ public final class EdgesOfViewsTest {
         surfaces("FRONT is NEAR", Give.withMap(map), 31, 15, CEILING, 45, 0, 48, FLOOR);
         map.walls.set(0, new int[] {1, 0, 0, 1, NO, NO, NO, NO, NO, NO, 0, 0, 0, 0});
         surfaces("BACK is NEAR", Give.withMap(map), 31, 5, CEILING + 1, 15, UPPER, 45, 0, 48, FLOOR + 1);
+        MapMaker close = textured().sector(0, 60, 0, 0, 15, 0, 0).vertex(1, 1).vertex(0, -1).plainWall(0, 1, 0, NO, 0, 0);
+        mets("P is -1", Give.withMap(close), 31, 0);
+        close.walls.set(0, new int[] {1, 0, 0, NO, NO, NO, NO, NO, NO, NO, 0, 0, 0, 0});
+        mets("P is 1", Give.withMap(close), 31);
     }
 
     private static void order() {
@@ -151,10 +157,26 @@ public final class EdgesOfViewsTest {
             near[i * 7 % 20] = i;
         }
         mets("20 of them", Give.withMap(row), 31, near);
+        slantedInOrder();
         // From 32768 below 0 the ray of column 32 is at y = -980.75 where x is 30000: both walls are met just behind it.
         MapMaker close = textured().sector(0, 60, 0, 0, 15, 0, 0).vertex(30000, -980).vertex(30002, -32768).vertex(30001, -32768)
             .plainWall(0, 1, 0, 0, 0, 0).plainWall(0, 2, 0, 0, 0, 0).start(-32768, 0, 0, 0);
         mets("R is nearly the same", Give.withMap(close), 32, 1, 0);
+    }
+
+    // Neither their upper nor their lower ends change places, so all rays meet them from left to right.
+    private static void slantedInOrder() {
+        int n = 25;
+        MapMaker map = textured().sector(0, 60, 0, 0, 15, 0, 0);
+        int[] number = new int[n];
+        for (int k = 0; k < n; k++) {
+            int i = k * 7 % n;
+            map.vertex(64 + 4 * i, 900).vertex(40 + 5 * i + i % 3, -900).plainWall(2 * k, 2 * k + 1, 0, 0, 0, 0);
+            number[i] = k;
+        }
+        for (int column = 0; column < 64; column++) {
+            mets("slanted walls", Give.withMap(map), column, number);
+        }
     }
 
     private static void passedOver() {
@@ -208,7 +230,13 @@ public final class EdgesOfViewsTest {
             SectorView up = open(-y, 64, 1 - y, 64);
             up.startAt(0, 0, 16, 0);
             mets("column " + column + ", turned left", up, column, 0);
+            SectorView slanted = Give.withMap(textured().sector(0, 60, 0, 0, 15, 0, 0).vertex(-33, 1000).vertex(7, 1010)
+                .plainWall(0, 1, 0, 0, 0, 0).start(y, 940, 16, 0));
+            mets("column " + column + ", from elsewhere", slanted, column, 0);
         }
+        SectorView level = Give.withMap(textured().sector(0, 60, 0, 0, 15, 0, 0).vertex(-100, 1004).vertex(100, 1004)
+            .plainWall(0, 1, 0, NO, 0, 0).start(7, 940, 16, 0));
+        surfaces("64 away, from elsewhere", level, 31, 15, CEILING, 45, SOLID, 48, FLOOR);
     }
 
     private static void dueRow(int x, int z, int row) {
@@ -370,8 +398,47 @@ public final class EdgesOfViewsTest {
         pixel("from its back, by its other end", wallSeen(1, 0x30, false, 64, 17, 64, -50), 31, 30, 3, 15);
         pixel("from its back, 2 of it", wallSeen(1, 0x30, false, 64, 3, 64, -50), 31, 30, 5, 15);
         pixel("rounded down", wallSeen(1, 0, true, 65, 50, 65, -50), 31, 30, 48 % 16, 15);
+        acrossBehind();
         pixel("W of 1", wallSeen(2, 0xF0, true, 64, 50, 64, -50), 31, 32, Math.floorMod(30 - 1 - 24, 16), 15);
         pixel("W of 2", wallSeen(3, 0, true, 64, 50, 64, -50), 31, 32, 8 + 2 * Math.floorMod(30 - 1 - 24, 4) + 1, 15);
+    }
+
+    // The nearer wall has the higher number; its 49 is not the 33 of the one behind it.
+    private static void acrossBehind() {
+        MapMaker map = textured().sector(0, 60, 0, 0, 15, 0, 0).sector(20, 50, 0, 0, 15, 0, 0)
+            .vertex(128, 35).vertex(128, -80).vertex(64, 50).vertex(64, -50)
+            .wall(0, 1, 1, NO, NO, 1, NO, NO, NO, NO, 0, 0, 0, 0).wall(2, 3, 0, 1, 1, 1, 1, 1, 1, 1, 0, 0, 0, 0);
+        SectorView view = Give.withMap(map);
+        mets("the nearer one first", view, 31, 1, 0);
+        pixel("the nearer one", view, 31, 40, 49 % 16, 15);
+        pixel("the one behind it", view, 31, 26, 33 % 16, 15);
+        MapMaker back = textured().sector(0, 60, 0, 0, 15, 0, 0).sector(20, 50, 0, 0, 15, 0, 0).sector(30, 40, 0, 0, 15, 0, 0)
+            .vertex(128, 35).vertex(128, -80).vertex(64, 50).vertex(64, -50)
+            .wall(1, 0, 2, 1, 1, 1, 1, 1, 1, 1, 0, 0, 0, 0).wall(2, 3, 0, 1, 1, 1, 1, 1, 1, 1, 0, 0, 0, 0);
+        pixel("the one behind it, from its back", Give.withMap(back), 31, 28, 33 % 16, 15);
+    }
+
+    private static final int[] SIX = {4, 5, 6, 7, 8, 9};
+
+    /** Textures 4 .. 9 are 1 by 1, of texels 1 .. 6; the wall has one of them for each of its parts. */
+    private static SectorView sixTextures(boolean fromFront, boolean solid) {
+        MapMaker map = textured();
+        for (int i = 1; i <= 6; i++) {
+            map.texture(0, 0, i);
+        }
+        map.sector(0, 60, 0, 0, 15, 0, 0).sector(30, 50, 0, 0, 15, 0, 0).vertex(64, 50).vertex(64, -50);
+        int near = fromFront ? 0 : 1;
+        map.wall(fromFront ? 0 : 1, fromFront ? 1 : 0, near, solid ? NO : 1 - near, SIX[0], SIX[1], SIX[2], solid ? NO : SIX[3],
+            solid ? NO : SIX[4], solid ? NO : SIX[5], 0, 0, 0, 0);
+        return Give.withMap(map);
+    }
+
+    private static void eachTexture() {
+        pixel("FRONT's upper", sixTextures(true, false), 31, 17, 1, 15);
+        pixel("FRONT's middle", sixTextures(true, true), 31, 30, 2, 15);
+        pixel("FRONT's lower", sixTextures(true, false), 31, 40, 3, 15);
+        pixel("BACK's upper", sixTextures(false, false), 31, 17, 4, 15);
+        pixel("BACK's lower", sixTextures(false, false), 31, 40, 6, 15);
     }
 
     // At x = 64 Z of row y is 88 - 2 * y.
@@ -531,6 +598,15 @@ public final class EdgesOfViewsTest {
             MapMaker map = textured().sector(0, 1024, 0, 0, l[1], 0, 0).vertex(l[0], 32000).vertex(l[0], -32000).plainWall(0, 1, 0, NO, 0, 0);
             S.due("at " + l[0] + ", light " + l[1], Give.withMap(map).pixelAt(31, 23), l[2]);
         }
+        // A ceiling's DISTANCE in row 23 is its height above the eye / 256, a floor's in row 25 its depth below it / 768.
+        int[][] ceilings = {{42, 15}, {44, 15}, {45, 14}, {48, 14}, {49, 13}, {100, 1}, {101, 0}, {105, 0}, {1000, 0}};
+        for (int[] c : ceilings) {
+            S.due("a ceiling of " + c[0], Give.withMap(room(0, c[0], 32000)).pixelAt(31, 23) % 16, c[1]);
+        }
+        S.due("a ceiling in row 22, 95 / 12 less", Give.withMap(room(0, 136, 32000)).pixelAt(31, 22) % 16, 8);
+        S.due("a ceiling in row 22, 96 / 12 less", Give.withMap(room(0, 137, 32000)).pixelAt(31, 22) % 16, 7);
+        S.due("a floor in row 25", Give.withMap(room(0, 1000, 32000)).pixelAt(31, 25) % 16, 12);
+        S.due("a floor in row 47", Give.withMap(room(0, 1000, 32000)).pixelAt(31, 47) % 16, 15);
         SectorView near = seen(0, -30, 60);
         S.due("the light of NEAR", near.pixelAt(31, 30) % 16, 15);
         MapMaker two = room(0, 60, 64).sector(0, 60, 0, 0, 3, 0, 0);

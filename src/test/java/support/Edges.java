@@ -41,6 +41,18 @@ final class Edges {
         return MapMaker.checked(body);
     }
 
+    /** The first n bytes; those that are missing are 0. */
+    static int[] first(int n, int[] bytes) {
+        return Arrays.copyOf(bytes, n);
+    }
+
+    /** These bytes with another one; the check is not made right for it. */
+    static int[] with(int[] bytes, int place, int b) {
+        int[] others = bytes.clone();
+        others[place] = b;
+        return others;
+    }
+
     /** The fault and the place of a map's bytes, on a new object; fault 0 is none. */
     static void dueMap(Sentences s, String what, int[] bytes, int fault, int place) {
         SectorView view = new SectorView();
