@@ -5,11 +5,13 @@ import java.lang.reflect.Method;
 import java.lang.reflect.Modifier;
 import java.nio.file.Files;
 import java.nio.file.Path;
+import java.util.Arrays;
 import java.util.List;
 import java.util.Set;
 import java.util.TreeSet;
 import java.util.regex.Matcher;
 import java.util.regex.Pattern;
+import java.util.stream.Collectors;
 
 /** The rules of LANGUAGE.md that can be seen in the source and in the compiled class. */
 public final class LanguageTest {
@@ -71,7 +73,37 @@ public final class LanguageTest {
         }
     }
 
-    private static void face() {
+    /** The document's face, each member with its types alone: names of parameters are free. */
+    private static Set<String> faceOfDocument() throws IOException {
+        Set<String> members = new TreeSet<>();
+        Matcher lines = Pattern.compile("(?m)^    public ([^;=]+)[^;]*;$").matcher(Files.readString(Path.of("../shared/DOC.md")));
+        while (lines.find()) {
+            members.add(lines.group(1).strip().replaceAll("(\\w+) \\w+(?=[,)])", "$1"));
+        }
+        return members;
+    }
+
+    private static Set<String> faceOfClass() {
+        Set<String> members = new TreeSet<>();
+        for (Field f : SectorView.class.getFields()) {
+            members.add(Modifier.toString(f.getModifiers()).replace("public ", "") + " " + f.getType() + " " + f.getName());
+        }
+        for (Constructor<?> c : SectorView.class.getConstructors()) {
+            members.add(c.getName() + types(c.getParameterTypes()));
+        }
+        for (Method m : SectorView.class.getDeclaredMethods()) {
+            if (Modifier.isPublic(m.getModifiers())) {
+                members.add(m.getReturnType() + " " + m.getName() + types(m.getParameterTypes()));
+            }
+        }
+        return members;
+    }
+
+    private static String types(Class<?>[] types) {
+        return Arrays.stream(types).map(Class::getName).collect(Collectors.joining(", ", "(", ")"));
+    }
+
+    private static void face() throws IOException {
         Set<String> names = new TreeSet<>();
         for (Method m : SectorView.class.getDeclaredMethods()) {
             if (Modifier.isPublic(m.getModifiers())) {
@@ -81,6 +113,7 @@ public final class LanguageTest {
             }
         }
         CHECKS.due("the face " + names, names.equals(FACE), true);
+        CHECKS.due("the face is the document's: " + faceOfClass(), faceOfClass().equals(faceOfDocument()), true);
         for (Field f : SectorView.class.getDeclaredFields()) {
             CHECKS.due(f + " is private", Modifier.isPrivate(f.getModifiers()), !f.getName().equals("NONE"));
         }

@@ -1,5 +1,11 @@
-/** Tests of single sentences of the document: each has answers of its own, and none goes without. */
+import java.io.IOException;
+import java.io.UncheckedIOException;
+import java.nio.file.Files;
+import java.nio.file.Path;
+
+/** Tests of single sentences of the document: each stands in it, has answers of its own, and none goes without. */
 final class Sentences {
+    private final String document = document();
     private final Checks checks = new Checks();
     private String words = "";
     private int asked;
@@ -16,7 +22,16 @@ final class Sentences {
             due("a call threw", true, false);
         }
         checks.due("\"" + words + "\": answers are asked for", asked > 0, true);
+        checks.due("\"" + words + "\": stands in the document", document.contains(words), true);
         tested++;
+    }
+
+    private static String document() {
+        try {
+            return Files.readString(Path.of("../shared/DOC.md")).replaceAll("\\s+", " ");
+        } catch (IOException fault) {
+            throw new UncheckedIOException(fault);
+        }
     }
 
     void due(String call, long got, long want) {
